@@ -623,6 +623,9 @@ public final class PromiseTest {
         y.swear(EVE, ANN, PORT, 0);
         CHECK.is("a lie of a known hour stands", y.oath(3, 5), 0);
         CHECK.is("three lies", y.told(4), 3);
+        CHECK.is("what is known is found again", y.find(ANN, INN, 0), 0);
+        CHECK.is("who says otherwise is void", y.oath(3, 5), 1);
+        CHECK.is("who says so stands", y.oath(0, 5), 0);
     }
 
     private static void recanting() {
