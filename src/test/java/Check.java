@@ -20,6 +20,12 @@ final class Check {
         is(what, got ? 1 : 0, due ? 1 : 0);
     }
 
+    /** A call with STATUS 0. */
+    void taken(OathTill x, String what, long got, long due) {
+        is(what, got, due);
+        is(what + " status", x.status(), 0);
+    }
+
     /** A refused call: what it gave, and the STATUS. */
     void refused(OathTill x, String what, long got, int status) {
         is(what, got, OathTill.NONE);
@@ -60,5 +66,17 @@ final class Check {
     static int trials(OathTill x, String text) {
         feed(x, text);
         return x.trials(text.length());
+    }
+
+    /** Six rich persons a to f, PLACES la at 0, lb at 10, lc at 20, ld at 20, le at 60; f is a BISHOP. */
+    static OathTill six(String more) {
+        OathTill x = new OathTill();
+        court(x, "place la at 0;place lb at 10;place lc at 20;place ld at 20;place le at 60;"
+            + "person a purse 999;person b purse 999;person c purse 999;person d purse 999;person e purse 999;"
+            + "person f purse 0 bishop;" + more);
+        if (x.status() != 0) {
+            throw new IllegalArgumentException(more);
+        }
+        return x;
     }
 }

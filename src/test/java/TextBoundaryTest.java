@@ -16,6 +16,7 @@ public final class TextBoundaryTest {
         limitsOfNumbers();
         limitsOfPlacesAndPersons();
         parts();
+        partsWithinParts();
         namesToldAhead();
         twinsAndItself();
         ratesOnce();
@@ -286,6 +287,24 @@ public final class TextBoundaryTest {
         }
     }
 
+    /** At each TOKEN of a PART a whole other PART, which can't stand there. */
+    private static void partsWithinParts() {
+        String[] parts = {"place zz at 1 ;", "person zz purse 1 ;", "twins ann ben ;", "knows ann ben ;", "was ann in inn hour 1 ;",
+            "base 1 ;", "more 1 ;", "speed 1 ;"};
+        for (String part : parts) {
+            taken(PEOPLE + part, part.startsWith("person") ? 3 : 2);
+            StringBuilder ahead = new StringBuilder(PEOPLE);
+            for (String token : part.split(" ")) {
+                if (ahead.length() > PEOPLE.length()) {
+                    for (String other : parts) {
+                        faulty(ahead + other.replace("zz", "yy"), 2, ahead.length());
+                    }
+                }
+                ahead.append(token).append(' ');
+            }
+        }
+    }
+
     /** "3 a new NAME that is taken; a NAME that is no such one told ahead." */
     private static void namesToldAhead() {
         faulty("place a at 1;place a at 2;", 3, 19);
@@ -413,8 +432,14 @@ public final class TextBoundaryTest {
     private static void aNewCourt() {
         OathTill x = new OathTill();
         Check.court(x, persons(6) + places(5) + "base 1;more 1;speed 1;twins pa pb;knows pa pb;was pa in la hour 3;");
+        x.earn(0, 9);
         x.swear(0, 1, 0, 0);
-        Check.trials(x, "stop;");
+        x.find(1, 0, 0);
+        x.swear(0, 1, 0, 1);
+        CHECK.is("two were sworn", x.told(2), 2);
+        Check.trials(x, "swear pa says pb in la hour 2;swear pa says pb in la hour 3;");
+        x.mean(0, 2);
+        x.alibi(1, 0, 5, 2);
         CHECK.is("a new one", Check.court(x, persons(2) + places(2)), 2);
         int[] due = {2, 2, 0, 0, 0, 0, 0, 0, 5, 2, 10, 0};
         for (int what = 0; what < 12; what++) {
@@ -430,6 +455,12 @@ public final class TextBoundaryTest {
         CHECK.refused(x, "no fees were paid", x.kept(), 6);
         CHECK.refused(x, "a third person is none", x.person(2, 0), 1);
         CHECK.refused(x, "a third place is none", x.mile(2), 1);
+        CHECK.is("the first oath anew", x.swear(1, 1, 0, 0), 0);
+        int[] oath = {1, 1, 0, 0, 5, 0, 0, 0};
+        for (int what = 0; what < 8; what++) {
+            CHECK.is("its " + what, x.oath(0, what), oath[what]);
+        }
+        CHECK.is("the till of it alone", x.told(11), 5);
         CHECK.refused(x, "court with a fault", Check.court(x, persons(3) + "was"), 9);
         CHECK.is("the old one stays", x.told(1), 2);
         CHECK.is("an empty one", Check.court(x, ""), 0);
@@ -574,6 +605,12 @@ public final class TextBoundaryTest {
         trialsFaulty("loop 1;end", 2, 10);
         trialsFaulty("loop 1;end end;", 2, 11);
         trialsFaulty("loop 1;end 1;", 2, 11);
+        OathTill x = people();
+        CHECK.refused(x, "open", Check.trials(x, "loop 1;loop 1;loop 1;"), 9);
+        CHECK.is("the next begin anew", Check.trials(x, "loop 1;loop 1;loop 1;end;end;end;"), 3);
+        CHECK.refused(x, "open again", Check.trials(x, "loop 1;stop;"), 9);
+        CHECK.refused(x, "its end can't come later", Check.trials(x, "end;"), 9);
+        CHECK.is("at its place", x.fault(1), 0);
     }
 
     /** "TRIALS are a TEXT of at most 300 bytes"; "1: above 300, too". */
@@ -613,6 +650,9 @@ public final class TextBoundaryTest {
         CHECK.is("new trials", Check.trials(x, "recant ann;recant ann;"), 2);
         CHECK.is("leave the oaths", x.told(3), 1);
         CHECK.is("are there", x.live(0), 2);
+        CHECK.is("other steps in their places", Check.trials(x, "swear ben says ben in mill hour 2;swear ben says ben in mill hour 3;"), 2);
+        x.live(0);
+        CHECK.is("are sworn", x.lived(1), 2);
         CHECK.is("a new court", Check.court(x, PEOPLE), 2);
         CHECK.refused(x, "has none", x.live(0), 6);
     }

@@ -11,6 +11,7 @@ public final class TrialBoundaryTest {
         noTrials();
         seeds();
         theDraw();
+        whatIsDrawnIsPaid();
         drawsByOne();
         missedWithoutADraw();
         missed();
@@ -30,6 +31,7 @@ public final class TrialBoundaryTest {
         meanOfManySeeds();
         markLimits();
         takenBack();
+        oathsComeBack();
         notTakenBack();
         markAndCourt();
         CHECK.end();
@@ -48,11 +50,6 @@ public final class TrialBoundaryTest {
         return x;
     }
 
-    private static void is(OathTill x, String what, int got, int due) {
-        CHECK.is(what, got, due);
-        CHECK.is(what + " status", x.status(), 0);
-    }
-
     /** "(1; 6: no TRIALS)": at first, behind a new COURT, behind undo(); an empty text is TRIALS of no STEP. */
     private static void noTrials() {
         CHECK.promise(54);
@@ -62,17 +59,17 @@ public final class TrialBoundaryTest {
         Check.trials(x, "stop");
         CHECK.refused(x, "a fault makes none", x.live(0), 6);
         Check.trials(x, "");
-        is(x, "an empty text", x.live(0), 0);
+        CHECK.taken(x, "an empty text", x.live(0), 0);
         CHECK.promise(55);
         for (int what = 0; what < 5; what++) {
-            is(x, "of which nothing is told " + what, x.lived(what), 0);
+            CHECK.taken(x, "of which nothing is told " + what, x.lived(what), 0);
         }
         CHECK.promise(54);
         Check.court(x, COURT);
         CHECK.refused(x, "a new court has none", x.live(0), 6);
         x.mark();
         Check.trials(x, "stop;");
-        is(x, "one", x.live(0), 1);
+        CHECK.taken(x, "one", x.live(0), 1);
         x.undo();
         CHECK.refused(x, "taken back", x.live(0), 6);
     }
@@ -81,8 +78,8 @@ public final class TrialBoundaryTest {
     private static void seeds() {
         CHECK.promise(54);
         OathTill x = trials("stop;");
-        is(x, "0", x.live(0), 1);
-        is(x, "9,999", x.live(9999), 1);
+        CHECK.taken(x, "0", x.live(0), 1);
+        CHECK.taken(x, "9,999", x.live(9999), 1);
         CHECK.refused(x, "-1", x.live(-1), 1);
         CHECK.refused(x, "10,000", x.live(10000), 1);
     }
@@ -96,15 +93,15 @@ public final class TrialBoundaryTest {
         CHECK.promise(54);
         for (int seed : new int[] {0, 1, 7, 8, 22, 123, 4567, 9998, 9999}) {
             OathTill x = trials("any pope says ann;any pope says ben;any pope says pope;");
-            is(x, "three steps", x.live(seed), 3);
+            CHECK.taken(x, "three steps", x.live(seed), 3);
             int s = seed;
             for (int oath = 0; oath < 3; oath++) {
                 s = next(s);
                 int spot = s / 8 % 24;
-                is(x, "hour by seed " + seed, x.oath(oath, 3), spot / 3);
-                is(x, "place by seed " + seed, x.oath(oath, 2), spot % 3);
-                is(x, "witness", x.oath(oath, 0), POPE);
-                is(x, "person", x.oath(oath, 1), oath);
+                CHECK.taken(x, "hour by seed " + seed, x.oath(oath, 3), spot / 3);
+                CHECK.taken(x, "place by seed " + seed, x.oath(oath, 2), spot % 3);
+                CHECK.taken(x, "witness", x.oath(oath, 0), POPE);
+                CHECK.taken(x, "person", x.oath(oath, 1), oath);
             }
         }
         OathTill y = court();
@@ -115,8 +112,30 @@ public final class TrialBoundaryTest {
         y.live(5);
         int s = next(5);
         int spot = s / 8 % 12;
-        is(y, "of four hours", y.oath(4, 3), 2 * (spot / 3) + 1);
-        is(y, "place of it", y.oath(4, 2), spot % 3);
+        CHECK.taken(y, "of four hours", y.oath(4, 3), 2 * (spot / 3) + 1);
+        CHECK.taken(y, "place of it", y.oath(4, 2), spot % 3);
+    }
+
+    /** What is drawn costs what that one costs. */
+    private static void whatIsDrawnIsPaid() {
+        CHECK.promise(54);
+        for (int seed = 0; seed < 40; seed++) {
+            OathTill x = court();
+            x.ride(60);
+            for (int hour = 0; hour < 8; hour++) {
+                x.swear(POPE, BEN, hour % 3, hour);
+            }
+            Check.trials(x, "any ann says ben;");
+            int spot = next(seed) / 8 % 24;
+            int fee = x.fee(ANN, BEN, spot % 3, spot / 3);
+            CHECK.taken(x, "one step", x.live(seed), 1);
+            CHECK.taken(x, "hour by seed " + seed, x.oath(8, 3), spot / 3);
+            CHECK.taken(x, "place by seed " + seed, x.oath(8, 2), spot % 3);
+            CHECK.taken(x, "fee by seed " + seed, x.oath(8, 4), fee);
+            CHECK.taken(x, "till by seed " + seed, x.told(11), fee);
+            CHECK.taken(x, "purse by seed " + seed, x.person(ANN, 0), 99 - fee);
+            CHECK.taken(x, "lived by seed " + seed, x.lived(3), fee);
+        }
     }
 
     private static OathTill oneLeft(String text) {
@@ -131,10 +150,10 @@ public final class TrialBoundaryTest {
         CHECK.promise(54);
         for (int seed = 0; seed < 40; seed++) {
             OathTill x = oneLeft("any ann says ann;any pope says ann;");
-            is(x, "two steps", x.live(seed), 2);
-            is(x, "the one that is left", x.oath(0, 3), 6);
+            CHECK.taken(x, "two steps", x.live(seed), 2);
+            CHECK.taken(x, "the one that is left", x.oath(0, 3), 6);
             int s = next(next(seed));
-            is(x, "the second draw by seed " + seed, x.oath(1, 3), s / 8 % 8);
+            CHECK.taken(x, "the second draw by seed " + seed, x.oath(1, 3), s / 8 % 8);
         }
     }
 
@@ -143,9 +162,9 @@ public final class TrialBoundaryTest {
         CHECK.promise(54);
         for (int seed = 0; seed < 40; seed++) {
             OathTill x = oneLeft("any ann says pope;any pope says pope;");
-            is(x, "two steps", x.live(seed), 2);
-            is(x, "one missed", x.lived(0), 1);
-            is(x, "the first draw by seed " + seed, x.oath(0, 3), next(seed) / 8 % 8);
+            CHECK.taken(x, "two steps", x.live(seed), 2);
+            CHECK.taken(x, "one missed", x.lived(0), 1);
+            CHECK.taken(x, "the first draw by seed " + seed, x.oath(0, 3), next(seed) / 8 % 8);
         }
     }
 
@@ -154,17 +173,17 @@ public final class TrialBoundaryTest {
         CHECK.promise(55);
         OathTill x = trials("swear ben says ben in la hour 0;any ben says ben;recant ben;find ben in la hour 0;find ben in la hour 0;"
             + "swear ann says ben in la hour 0;swear ann says ben in la hour 0;recant ann;recant ann;");
-        is(x, "all are done", x.live(0), 9);
-        is(x, "ben thrice, ann's second oath, her second recanting", x.lived(0), 5);
-        is(x, "sworn", x.lived(1), 1);
-        is(x, "void", x.lived(2), 0);
-        is(x, "paid", x.lived(3), 0);
-        is(x, "left", x.lived(4), 0);
+        CHECK.taken(x, "all are done", x.live(0), 9);
+        CHECK.taken(x, "ben thrice, ann's second oath, her second recanting", x.lived(0), 5);
+        CHECK.taken(x, "sworn", x.lived(1), 1);
+        CHECK.taken(x, "void", x.lived(2), 0);
+        CHECK.taken(x, "paid", x.lived(3), 0);
+        CHECK.taken(x, "left", x.lived(4), 0);
         OathTill y = trials("loop 17;any pope says ann;any pope says ben;end;");
-        is(y, "up to 16 oaths", y.live(1), 35);
-        is(y, "sworn", y.lived(1), 16);
-        is(y, "missed", y.lived(0), 18);
-        is(y, "void ones can be sworn again", y.told(2), 16);
+        CHECK.taken(y, "up to 16 oaths", y.live(1), 35);
+        CHECK.taken(y, "sworn", y.lived(1), 16);
+        CHECK.taken(y, "missed", y.lived(0), 18);
+        CHECK.taken(y, "void ones can be sworn again", y.told(2), 16);
     }
 
     /** "recant: the latest OATH of that WITNESS that STANDS". */
@@ -178,18 +197,18 @@ public final class TrialBoundaryTest {
         x.recant(3);
         Check.trials(x, "recant ann;");
         x.live(0);
-        is(x, "the latest that stands", x.oath(2, 5), 2);
-        is(x, "not the first", x.oath(0, 5), 0);
+        CHECK.taken(x, "the latest that stands", x.oath(2, 5), 2);
+        CHECK.taken(x, "not the first", x.oath(0, 5), 0);
         x.live(0);
-        is(x, "then the first", x.oath(0, 5), 2);
-        is(x, "not another's", x.oath(1, 5), 0);
+        CHECK.taken(x, "then the first", x.oath(0, 5), 2);
+        CHECK.taken(x, "not another's", x.oath(1, 5), 0);
         x.live(0);
-        is(x, "then none", x.lived(0), 1);
+        CHECK.taken(x, "then none", x.lived(0), 1);
     }
 
     private static void when(OathTill x, String test, boolean holds) {
         Check.trials(x, "when " + test + ";recant ben;end;");
-        is(x, test, x.live(0), holds ? 2 : 1);
+        CHECK.taken(x, test, x.live(0), holds ? 2 : 1);
     }
 
     /** "when till": below, above, and just as much. */
@@ -256,9 +275,9 @@ public final class TrialBoundaryTest {
     private static void steps(String text, int done, int left) {
         OathTill x = trials(text);
         CHECK.promise(54);
-        is(x, "steps of " + text, x.live(0), done);
+        CHECK.taken(x, "steps of " + text, x.live(0), done);
         CHECK.promise(55);
-        is(x, "left of " + text, x.lived(4), left);
+        CHECK.taken(x, "left of " + text, x.lived(4), left);
     }
 
     /** "loop n (1 to 99): as often"; "when, loop count as one each time they are come to from ahead; end does not". */
@@ -310,15 +329,15 @@ public final class TrialBoundaryTest {
         CHECK.promise(54);
         String ahead = "loop 99;recant ben;recant ben;recant ben;end;recant ben;";
         OathTill x = trials(ahead + "swear ann says ben in la hour 0;swear ann says ben in la hour 1;");
-        is(x, "300", x.live(0), 300);
-        is(x, "the 300th is done", x.told(2), 1);
+        CHECK.taken(x, "300", x.live(0), 300);
+        CHECK.taken(x, "the 300th is done", x.told(2), 1);
         CHECK.promise(55);
-        is(x, "missed", x.lived(0), 298);
-        is(x, "sworn", x.lived(1), 1);
-        is(x, "one is left", x.lived(4), 1);
+        CHECK.taken(x, "missed", x.lived(0), 298);
+        CHECK.taken(x, "sworn", x.lived(1), 1);
+        CHECK.taken(x, "one is left", x.lived(4), 1);
         OathTill y = trials(ahead + "swear ann says ben in la hour 0;");
-        is(y, "all are done", y.live(0), 300);
-        is(y, "none is left", y.lived(4), 0);
+        CHECK.taken(y, "all are done", y.live(0), 300);
+        CHECK.taken(y, "none is left", y.lived(4), 0);
     }
 
     private static void stops() {
@@ -335,14 +354,14 @@ public final class TrialBoundaryTest {
         CHECK.promise(54);
         OathTill x = trials("swear ann says ben in la hour 0;recant ann;");
         for (int i = 1; i <= 16; i++) {
-            is(x, "again", x.live(0), 2);
-            is(x, "an oath more", x.told(2), i);
-            is(x, "a fee more", x.told(11), 4 * i);
+            CHECK.taken(x, "again", x.live(0), 2);
+            CHECK.taken(x, "an oath more", x.told(2), i);
+            CHECK.taken(x, "a fee more", x.told(11), 4 * i);
         }
-        is(x, "with 16", x.live(0), 2);
-        is(x, "both are missed", x.lived(0), 2);
-        is(x, "none more", x.told(2), 16);
-        is(x, "the purse", x.person(ANN, 0), 99 - 64);
+        CHECK.taken(x, "with 16", x.live(0), 2);
+        CHECK.taken(x, "both are missed", x.lived(0), 2);
+        CHECK.taken(x, "none more", x.told(2), 16);
+        CHECK.taken(x, "the purse", x.person(ANN, 0), 99 - 64);
     }
 
     /** "Of live() latest with STATUS 0 .. (1; 6: there was none)". */
@@ -355,29 +374,29 @@ public final class TrialBoundaryTest {
         CHECK.refused(x, "refused", x.lived(0), 6);
         Check.trials(x, "swear ann says ben in la hour 0;swear ann says ben in lc hour 1;find ben in la hour 2;"
             + "swear ann says ben in la hour 2;swear ann says ben in la hour 3;find ben in la hour 3;");
-        is(x, "live", x.live(0), 6);
-        is(x, "missed", x.lived(0), 0);
-        is(x, "sworn", x.lived(1), 4);
-        is(x, "void", x.lived(2), 2);
-        is(x, "paid, with what was refunded", x.lived(3), 12);
-        is(x, "left", x.lived(4), 0);
+        CHECK.taken(x, "live", x.live(0), 6);
+        CHECK.taken(x, "missed", x.lived(0), 0);
+        CHECK.taken(x, "sworn", x.lived(1), 4);
+        CHECK.taken(x, "void", x.lived(2), 2);
+        CHECK.taken(x, "paid, with what was refunded", x.lived(3), 12);
+        CHECK.taken(x, "left", x.lived(4), 0);
         CHECK.refused(x, "what 5", x.lived(5), 1);
         CHECK.refused(x, "what -1", x.lived(-1), 1);
         x.live(-1);
         x.live(10000);
-        is(x, "refused ones leave it", x.lived(1), 4);
+        CHECK.taken(x, "refused ones leave it", x.lived(1), 4);
         x.mean(0, 20);
-        is(x, "so does mean", x.lived(1), 4);
+        CHECK.taken(x, "so does mean", x.lived(1), 4);
         Check.trials(x, "stop;");
-        is(x, "so do new trials", x.lived(1), 4);
+        CHECK.taken(x, "so do new trials", x.lived(1), 4);
         x.live(0);
-        is(x, "the latest counts alone", x.lived(1), 0);
-        is(x, "nothing paid", x.lived(3), 0);
-        is(x, "nothing void", x.lived(2), 0);
+        CHECK.taken(x, "the latest counts alone", x.lived(1), 0);
+        CHECK.taken(x, "nothing paid", x.lived(3), 0);
+        CHECK.taken(x, "nothing void", x.lived(2), 0);
         Check.court(x, "");
-        is(x, "a new court leaves it", x.lived(1), 0);
+        CHECK.taken(x, "a new court leaves it", x.lived(1), 0);
         CHECK.refused(x, "refused: no trials", x.live(0), 6);
-        is(x, "still told", x.lived(4), 0);
+        CHECK.taken(x, "still told", x.lived(4), 0);
     }
 
     /** "of these VOID now". */
@@ -387,14 +406,14 @@ public final class TrialBoundaryTest {
         x.swear(ANN, BEN, 0, 5);
         Check.trials(x, "swear ann says ben in la hour 0;swear ann says ben in la hour 1;");
         x.live(0);
-        is(x, "none", x.lived(2), 0);
+        CHECK.taken(x, "none", x.lived(2), 0);
         x.find(BEN, 1, 0);
-        is(x, "one", x.lived(2), 1);
+        CHECK.taken(x, "one", x.lived(2), 1);
         x.find(BEN, 1, 5);
-        is(x, "not the one from ahead", x.lived(2), 1);
+        CHECK.taken(x, "not the one from ahead", x.lived(2), 1);
         x.recant(2);
-        is(x, "recanted is not void", x.lived(2), 1);
-        is(x, "three were void or recanted", x.told(5) + x.told(7), 3);
+        CHECK.taken(x, "recanted is not void", x.lived(2), 1);
+        CHECK.taken(x, "three were void or recanted", x.told(5) + x.told(7), 3);
     }
 
     /** "by so many seeds (1 to 20) from one on (1: the last above 9,999, too; 6: no TRIALS); all stays as it is". */
@@ -419,8 +438,8 @@ public final class TrialBoundaryTest {
         CHECK.refused(x, "10,000", x.mean(10000, 1), 1);
         CHECK.refused(x, "-1", x.mean(-1, 2), 1);
         CHECK.is("a refused one leaves the fraction", x.top(), 4);
-        is(x, "nothing was sworn", x.told(2), 0);
-        is(x, "nothing was paid", x.person(ANN, 0), 99);
+        CHECK.taken(x, "nothing was sworn", x.told(2), 0);
+        CHECK.taken(x, "nothing was paid", x.person(ANN, 0), 99);
         CHECK.refused(x, "nothing was lived", x.lived(0), 6);
         Check.trials(x, "");
         CHECK.is("of no step", x.mean(0, 3), true);
@@ -456,7 +475,7 @@ public final class TrialBoundaryTest {
             CHECK.is("top of " + many, x.top(), sum / divisor);
             CHECK.is("bottom of " + many, x.bottom(), many / divisor);
         }
-        is(x, "all stays as it is", x.told(2), 0);
+        CHECK.taken(x, "all stays as it is", x.told(2), 0);
         CHECK.refused(x, "nothing was found", x.known(BEN, 3), 6);
     }
 
@@ -468,17 +487,17 @@ public final class TrialBoundaryTest {
         for (int round = 0; round < 2; round++) {
             CHECK.promise(57);
             for (int i = 1; i <= 3; i++) {
-                is(x, "mark", x.mark(), i);
+                CHECK.taken(x, "mark", x.mark(), i);
             }
             CHECK.refused(x, "a fourth", x.mark(), 4);
             CHECK.refused(x, "a fourth again", x.mark(), 4);
             CHECK.promise(58);
-            is(x, "two left", x.undo(), 2);
+            CHECK.taken(x, "two left", x.undo(), 2);
             CHECK.promise(57);
-            is(x, "a third again", x.mark(), 3);
+            CHECK.taken(x, "a third again", x.mark(), 3);
             CHECK.promise(58);
             for (int i = 2; i >= 0; i--) {
-                is(x, "undo", x.undo(), i);
+                CHECK.taken(x, "undo", x.undo(), i);
             }
             CHECK.refused(x, "none left", x.undo(), 6);
         }
@@ -499,20 +518,58 @@ public final class TrialBoundaryTest {
         x.ride(1);
         x.swear(POPE, POPE, 0, 0);
         Check.trials(x, "stop;");
-        is(x, "all taken back", x.undo(), 0);
+        CHECK.taken(x, "all taken back", x.undo(), 0);
         int[] due = {3, 3, 2, 2, 2, 0, 0, 0, 4, 1, 10, 8};
         for (int what = 0; what < 12; what++) {
-            is(x, "told " + what, x.told(what), due[what]);
+            CHECK.taken(x, "told " + what, x.told(what), due[what]);
         }
-        is(x, "the purse", x.person(ANN, 0), 91);
-        is(x, "another purse", x.person(BEN, 0), 0);
-        is(x, "they do not know each other", x.knows(ANN, BEN), 0);
+        CHECK.taken(x, "the purse", x.person(ANN, 0), 91);
+        CHECK.taken(x, "another purse", x.person(BEN, 0), 0);
+        CHECK.taken(x, "they do not know each other", x.knows(ANN, BEN), 0);
         CHECK.refused(x, "it is not known", x.known(BEN, 0), 6);
-        is(x, "it is not refunded", x.oath(0, 6), 0);
-        is(x, "it stands", x.oath(1, 5), 0);
-        is(x, "the trials", x.live(0), 3);
-        is(x, "both were there to recant", x.lived(0), 0);
+        CHECK.taken(x, "it is not refunded", x.oath(0, 6), 0);
+        CHECK.taken(x, "it stands", x.oath(1, 5), 0);
+        CHECK.taken(x, "the trials", x.live(0), 3);
+        CHECK.taken(x, "both were there to recant", x.lived(0), 0);
         CHECK.refused(x, "the mark is gone", x.undo(), 6);
+    }
+
+    /** OATHS come back with all that is told of them, whatever was sworn in their place since. */
+    private static void oathsComeBack() {
+        CHECK.promise(58);
+        OathTill x = court();
+        Check.trials(x, "swear ann says ben in lb hour 3;");
+        x.swear(ANN, BEN, 0, 7);
+        x.find(BEN, 0, 7);
+        x.live(0);
+        x.mark();
+        Check.court(x, "place la at 0;person a purse 99;person b purse 99;base 50;");
+        x.swear(0, 0, 0, 0);
+        x.swear(1, 0, 0, 1);
+        x.recant(1);
+        CHECK.taken(x, "undo", x.undo(), 0);
+        int[][] due = {{ANN, BEN, 0, 7, 4, 0, 1, 1}, {ANN, BEN, 1, 3, 4, 0, 0, 0}};
+        for (int oath = 0; oath < 2; oath++) {
+            for (int what = 0; what < 8; what++) {
+                CHECK.taken(x, "oath " + oath + " what " + what, x.oath(oath, what), due[oath][what]);
+            }
+        }
+        CHECK.taken(x, "spent", x.person(ANN, 5), 4);
+        x.kept();
+        CHECK.is("kept", x.bottom(), 2);
+        CHECK.promise(55);
+        CHECK.taken(x, "none void", x.lived(2), 0);
+        x.find(BEN, 0, 3);
+        CHECK.taken(x, "the one that was lived is void", x.lived(2), 1);
+        OathTill y = court();
+        Check.trials(y, "swear ann says ben in lb hour 3;");
+        y.mark();
+        y.live(0);
+        y.undo();
+        y.swear(ANN, BEN, 1, 3);
+        y.find(BEN, 0, 3);
+        CHECK.taken(y, "void", y.told(5), 1);
+        CHECK.taken(y, "but it was not sworn by live()", y.lived(2), 0);
     }
 
     /** TRAYS, the tape, the FRACTION, what fault(), lived(), alibiBy(), callBy() tell are no part of a COURT. */
@@ -529,15 +586,15 @@ public final class TrialBoundaryTest {
         x.call(ANN, BEN);
         Check.court(x, ";");
         x.feed(0, 0, 0, 0, 0);
-        is(x, "undo", x.undo(), 0);
+        CHECK.taken(x, "undo", x.undo(), 0);
         CHECK.is("the tray", x.read(0, 0), 9);
         CHECK.is("the fraction", x.top(), 1);
         CHECK.is("the fault", x.fault(0), 2);
         CHECK.is("the tape", x.feed(0, 0, 0, 0, 0), 40);
-        is(x, "what was lived", x.lived(1), 1);
-        is(x, "the alibi", x.alibiBy(0), 1);
-        is(x, "the call", x.callBy(1), 1);
-        is(x, "the oaths are gone", x.told(2), 0);
+        CHECK.taken(x, "what was lived", x.lived(1), 1);
+        CHECK.taken(x, "the alibi", x.alibiBy(0), 1);
+        CHECK.taken(x, "the call", x.callBy(1), 1);
+        CHECK.taken(x, "the oaths are gone", x.told(2), 0);
     }
 
     /** A MARK outlives the COURT in which it was made, and keeps its NAMES. */
@@ -549,13 +606,13 @@ public final class TrialBoundaryTest {
         CHECK.is("another court", Check.court(x, "place zz at 3;person yy purse 1;"), 1);
         x.mark();
         CHECK.is("an empty one", Check.court(x, ""), 0);
-        is(x, "back to the second", x.undo(), 1);
-        is(x, "one person", x.told(1), 1);
-        is(x, "one place", x.mile(0), 3);
+        CHECK.taken(x, "back to the second", x.undo(), 1);
+        CHECK.taken(x, "one person", x.told(1), 1);
+        CHECK.taken(x, "one place", x.mile(0), 3);
         CHECK.is("its names", Check.trials(x, "find yy in zz hour 0;"), 1);
-        is(x, "back to the first", x.undo(), 0);
-        is(x, "three persons", x.told(1), 3);
-        is(x, "the last mile", x.mile(2), 60);
+        CHECK.taken(x, "back to the first", x.undo(), 0);
+        CHECK.taken(x, "three persons", x.told(1), 3);
+        CHECK.taken(x, "the last mile", x.mile(2), 60);
         CHECK.is("its names", Check.trials(x, "find pope in lc hour 7;"), 1);
         CHECK.refused(x, "the others are not", Check.trials(x, "find yy in zz hour 0;"), 9);
     }
