@@ -198,6 +198,7 @@ public final class StatusTest {
             x.write(0, i % 60, i);
             CHECK.is("read " + i, x.read(0, i % 60), i);
         }
-        taken(7, "the 512th", x.read(0, 14), 254);
+        CHECK.promise(7);
+        CHECK.is("the 512th", x.read(0, 14), 254);
     }
 }
