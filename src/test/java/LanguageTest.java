@@ -1,3 +1,4 @@
+import java.lang.reflect.Array;
 import java.lang.reflect.Constructor;
 import java.lang.reflect.Field;
 import java.lang.reflect.Method;
@@ -6,7 +7,9 @@ import java.nio.file.Files;
 import java.nio.file.Path;
 import java.util.ArrayList;
 import java.util.Arrays;
+import java.util.IdentityHashMap;
 import java.util.List;
+import java.util.Map;
 import java.util.Set;
 import java.util.TreeSet;
 import java.util.regex.Matcher;
@@ -37,6 +40,7 @@ public final class LanguageTest {
         insides();
         words(code);
         methods(code);
+        room();
         CHECK.end();
     }
 
@@ -122,5 +126,35 @@ public final class LanguageTest {
             CHECK.is("new in " + m.group(3), Pattern.compile("\\bnew\\b|\\.clone\\(|copyOf").matcher(body).find(), false);
         }
         CHECK.is("methods were seen", seen > 150, true);
+    }
+
+    /** A run has room for some 600,000 objects and 7.3 million fields and elements: a thousand OathTills go into it. */
+    private static void room() throws Exception {
+        Map<Object, Boolean> seen = new IdentityHashMap<>();
+        long parts = size(new OathTill(), seen);
+        CHECK.is("objects of one OathTill: " + seen.size(), seen.size() <= 600, true);
+        CHECK.is("fields and elements of one OathTill: " + parts, parts <= 7300, true);
+    }
+
+    private static long size(Object one, Map<Object, Boolean> seen) throws Exception {
+        if (one == null || one instanceof String || seen.put(one, true) != null) {
+            return 0;
+        }
+        long parts = 0;
+        if (one.getClass().isArray()) {
+            parts = Array.getLength(one);
+            for (int i = 0; i < Array.getLength(one) && one instanceof Object[] row; i++) {
+                parts += size(row[i], seen);
+            }
+            return parts;
+        }
+        for (Field f : one.getClass().getDeclaredFields()) {
+            if (!Modifier.isStatic(f.getModifiers())) {
+                parts++;
+                f.setAccessible(true);
+                parts += f.getType().isPrimitive() ? 0 : size(f.get(one), seen);
+            }
+        }
+        return parts;
     }
 }
