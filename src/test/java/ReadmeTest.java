@@ -5,7 +5,6 @@ import java.nio.file.Path;
 import java.util.regex.Matcher;
 import java.util.regex.Pattern;
 import java.util.stream.Stream;
-import javax.tools.ToolProvider;
 
 /** The code of README.md: each call must answer what is written behind it. Run from the project's root. */
 public final class ReadmeTest {
@@ -28,8 +27,9 @@ public final class ReadmeTest {
         Path work = Files.createTempDirectory("readme");
         try {
             Path file = Files.writeString(work.resolve("Readme.java"), program);
-            int trouble = ToolProvider.getSystemJavaCompiler()
-                .run(null, null, null, "-cp", System.getProperty("java.class.path"), "-d", work.toString(), file.toString());
+            String classes = System.getProperty("java.class.path");
+            int trouble = new ProcessBuilder("javac", "-cp", classes, "-d", work.toString(), file.toString())
+                .inheritIO().start().waitFor();
             CHECK.is("README.md compiles", trouble, 0);
             if (trouble == 0) {
                 run(work);
